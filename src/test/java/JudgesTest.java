@@ -97,6 +97,7 @@ public final class JudgesTest {
         Due.is("calm: it stays as TIRED", x.face(0, 0), 5);
         x.set(0, 0, 9);
         Due.is("calm: at once", x.calm(0, 1), 1);
+        Due.is("calm: by 9", x.calm(0, 90), 9);
     }
 
     private static void hush() {
@@ -120,6 +121,9 @@ public final class JudgesTest {
         Due.is("hush: b would catch a FALSE one", y.hush(2), 1);
         Due.row("hush: of as few the least", y, 1);
         Due.is("hush: no FACES", new StartedByAYawn().hush(300), 0);
+        x.yawn(1, 0);
+        Due.is("hush: in the next MINUTE alone", x.hush(1), 1);
+        Due.row("hush: in the next MINUTE alone", x, 2);
     }
 
     private static void gaze() {
@@ -144,6 +148,9 @@ public final class JudgesTest {
         Due.is("gaze: both are AWAY", x.gaze(0, 5), -1);
         Due.row("gaze: both are AWAY", x, 1);
         Due.is("gaze: what it SEES stays", x.face(2, 2), 0);
+        StartedByAYawn y = Due.lake("8/1;0/1;8/1>b", "1");
+        Due.is("gaze: of one that gets TIRED", y.gaze(0, 12), 1);
+        Due.row("gaze: of one that gets TIRED", y, 1);
     }
 
     private static void rests() {

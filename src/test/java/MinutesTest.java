@@ -164,6 +164,8 @@ public final class MinutesTest {
         Due.is("minutes: NOW", x.count(1), 6);
         Due.is("minutes: as one", x.undo(), 2);
         Due.is("minutes: undone", x.count(1), 3);
+        x.minutes(1);
+        Due.is("minutes: 1 is kept", x.count(8), 3);
         StartedByAYawn y = Due.lake("0/1");
         Due.is("minutes: 300", y.minutes(300), 21);
         Due.row("minutes: 300", y, 0, 90);
@@ -272,6 +274,31 @@ public final class MinutesTest {
         Due.is("undo: meant again", x.face(0, 6), 1);
         Due.is("undo: yawn()", x.undo(), 0);
         Due.is("undo: no DUE", x.count(4), 0);
+        x.minutes(10);
+        x.yawn(1, 0);
+        x.undo();
+        Due.is("undo: yawn() alone", x.count(1) * 1000 + x.count(6) * 10 + x.count(4), 10_000 + (12 + 3) * 10);
+        StartedByAYawn y = Due.lake("0/1;0/1>a", "1");
+        for (int k = 0; k < 7; k++) {
+            Due.hour(y, "fa;m2;ya;m2;yb;m1;ya;m2;ya;m2;ya;m2;ya;m2;ya;m2;ya;m2;ya;m2");
+        }
+        Due.is("undo: THE BOOK is full", y.count(5), 60);
+        String known = bookOf(y);
+        y.minutes(1);
+        Due.hour(y, "yb;m1;fb;m1;ya;m2;fb;m1;yb;m1;fb;m1");
+        y.undo();
+        y.undo();
+        Due.is("undo: the whole BOOK", bookOf(y).equals(known), true);
+    }
+
+    private static String bookOf(StartedByAYawn x) {
+        StringBuilder all = new StringBuilder();
+        for (int i = 0; i < x.count(5); i++) {
+            for (int what = 0; what < 5; what++) {
+                all.append(x.book(i, what)).append(' ');
+            }
+        }
+        return all.toString();
     }
 
     private static void book() {
@@ -332,6 +359,8 @@ public final class MinutesTest {
         x.minute();
         Due.is("back: b yawns at the end", x.book(59, 1), 1);
         Due.is("back: by a", x.book(59, 2), 0);
+        Due.row("back: nobody catches one then", x, 0, 0);
+        x.ahead(0);
         Due.is("back: a counts yet", x.back(59), 1);
         Due.row("back: a is the last", x, 0, 0);
     }

@@ -72,6 +72,21 @@ public final class SeasonTest {
         x.away(1);
         Due.is("best: no way has a START", x.best(0), -2);
         Due.row("best: the ROW stays", x, 0, 3);
+        StartedByAYawn z = Due.lake("5/1");
+        z.minutes(9);
+        z.crew(0, 1, 0);
+        z.crew(0, 1, 9);
+        z.sheet(2, 1, 8, 0);
+        Due.is("best: to be READY in MINUTE 1", z.best(0), 1);
+        Due.row("best: to be READY in MINUTE 1", z, 0, 2);
+        Due.is("best: to be READY at once", z.best(1), 0);
+        Due.row("best: to be READY at once", z, 1, 2);
+        StartedByAYawn nine = Due.lake("0/1;0/1;0/1;0/1;0/1;0/1;0/1;0/1;0/1");
+        nine.crew(0, 1, 1);
+        Due.is("best: ten ways", nine.best(0), 60);
+        Due.row("best: ten ways", nine, 30, 10);
+        Due.is("ahead: nine FACES", nine.ahead(91), 9);
+        Due.row("ahead: nine FACES", nine, 1, 1, 1, 1, 1, 1, 1, 1, 1);
         StartedByAYawn y = Due.lake("7/1");
         y.crew(0, 1, 1);
         Due.is("best: 9 at most", y.best(0), 0);
@@ -154,6 +169,9 @@ public final class SeasonTest {
         Due.is("fewest: a is AWAY", y.fewest(), 1);
         Due.row("fewest: b", y, 2);
         Due.is("fewest: no FACES", new StartedByAYawn().fewest(), 0);
+        Due.rule(y, "x=0");
+        Due.is("fewest: true", y.fewest(), 1);
+        Due.is("began: true", y.began(), 2);
     }
 
     /** DRAWS of 10 from seed 1: 8, 6, 3, 3, 9, 5. */

@@ -109,6 +109,9 @@ public final class ToComeTest {
         x.away(2);
         Due.is("spreads: AWAY", x.spreads(2, 5), -2);
         StartedByAYawn y = Due.lake("0/1;8/9>a;0/1>b;0/1>b", "(m=10)+(i=1)");
+        StartedByAYawn z = Due.lake("5/1;5/1>a", "x=0");
+        Due.is("spreads: true", z.spreads(0, 2), 3);
+        Due.is("dies: true", z.dies(0), 2);
         Due.is("spreads: fewer", y.spreads(0, 12), 1);
         Due.row("spreads: fewer", y, -1);
     }
@@ -214,6 +217,11 @@ public final class ToComeTest {
         Due.is("path: to one AWAY", x.path(0, 2), -1);
         Due.is("path: from one AWAY", x.path(2, 3), -1);
         Due.is("path: from and to one AWAY", x.path(2, 2), -1);
+        StartedByAYawn z = Due.lake("1/4>b;1/1;1/3>a;1/1>c", "0");
+        Due.is("path: through a", z.path(1, 3), 8);
+        Due.row("path: through a", z, 0, 2, 3);
+        Due.is("path: to a", z.path(1, 0), 4);
+        Due.row("path: to a", z, 0);
         StartedByAYawn y = Due.lake("1/1;1/1>ac;1/1>a;1/2>a;1/1>bd", "0");
         Due.is("path: the least row is the longer one", y.path(0, 4), 2);
         Due.row("path: the least row is the longer one", y, 1, 4);

@@ -126,6 +126,8 @@ public final class WallTest {
         Due.is("wind: 44 and a fault", Due.wind(x, "12;" + forty), -3);
         Due.is("wind: an empty one", Due.wind(x, ""), 0);
         Due.is("wind: none again", x.catchers(0, 0), 0);
+        Due.is("wind: one digit", Due.wind(x, "5"), 1);
+        Due.is("wind: one digit always", x.catchers(0, 0), 2);
     }
 
     private static void ruleFaults() {
@@ -182,6 +184,8 @@ public final class WallTest {
         catching(x, "j=1", 1, 0, 5);
         catching(x, "j=1", 0, 0, 0);
         catching(x, "x", 0, 1, 6);
+        catching(x, "x=1", 0, 1, 6);
+        catching(x, "x=0", 0, 0, 6);
         catching(x, "x", 0, 0, 0);
         catching(x, "n=1", 0, 0, 6);
         catching(x, "m=0", 0, 0, 6);
@@ -244,6 +248,8 @@ public final class WallTest {
         Due.is("set: it is", x.face(0, 0), 0);
         Due.is("set: DELAY", x.set(0, 1, 9), 2);
         Due.is("set: DELAY is", x.face(0, 1), 9);
+        Due.is("set: DELAY 1", x.set(0, 1, 1), 9);
+        Due.is("set: DELAY was 1", x.set(0, 1, 9), 1);
         Due.is("set: SEES", x.set(1, 2, 511), 3);
         Due.is("set: SEES was", x.set(1, 2, 0), 511);
         Due.is("set: SEES is", x.face(1, 2), 0);
