@@ -69,9 +69,7 @@ public final class StartedByAYawn {
     public int wall() {
         text.open(WALL_SIGNS);
         int lines = readLines();
-        boolean whole = lines != NONE && text.isWhole();
-        text.size = 0;
-        if (!whole) {
+        if (!text.close(lines != NONE)) {
             return text.fault();
         }
         if (lines > 0) {
@@ -87,9 +85,7 @@ public final class StartedByAYawn {
         while (digits < WIND_SIGNS && text.digit(0) != NONE) {
             digits++;
         }
-        boolean whole = text.isWhole();
-        text.size = 0;
-        if (!whole) {
+        if (!text.close(true)) {
             return text.fault();
         }
         rule.takeWind(text.signs, digits);
@@ -99,9 +95,7 @@ public final class StartedByAYawn {
     public int rule() {
         text.open(RULE_SIGNS);
         boolean plain = text.isOver();
-        boolean whole = (plain || ruleReader.readAll()) && text.isWhole();
-        text.size = 0;
-        if (!whole) {
+        if (!text.close(plain || ruleReader.readAll())) {
             return text.fault();
         }
         if (plain) {
@@ -184,8 +178,7 @@ public final class StartedByAYawn {
         if (!isIn(meant, 0, 1) || !canYawn(face)) {
             return false;
         }
-        past.draft(wall, yawns);
-        past.confirm();
+        remember();
         wall.moment.plan(face, wall.moment.now, NONE, meant);
         return true;
     }
@@ -194,8 +187,7 @@ public final class StartedByAYawn {
         if (!isFace(face)) {
             return NONE;
         }
-        past.draft(wall, yawns);
-        past.confirm();
+        remember();
         wall.moment.turnAway(face);
         return Integer.bitCount(wall.moment.away);
     }
@@ -216,8 +208,7 @@ public final class StartedByAYawn {
     }
 
     public int minute() {
-        past.draft(wall, yawns);
-        past.confirm();
+        remember();
         goBy();
         tell(wall.caught, falseIn(wall));
         return wall.yawners;
@@ -228,8 +219,7 @@ public final class StartedByAYawn {
             return NONE;
         }
         if (n > 0) {
-            past.draft(wall, yawns);
-            past.confirm();
+            remember();
         }
         int all = 0;
         int falseOnes = 0;
@@ -249,9 +239,7 @@ public final class StartedByAYawn {
 
     public int hour() {
         text.open(HOUR_SIGNS);
-        boolean whole = acts.readAll() && text.isWhole();
-        text.size = 0;
-        if (!whole) {
+        if (!text.close(acts.readAll())) {
             return text.fault();
         }
         past.draft(wall, yawns);
@@ -812,6 +800,11 @@ public final class StartedByAYawn {
         return isPresent(face) && wall.moment.due[face] == NONE;
     }
 
+    private void remember() {
+        past.draft(wall, yawns);
+        past.confirm();
+    }
+
     private void tell(int a) {
         told[0] = a;
         toldSize = 1;
@@ -1185,11 +1178,13 @@ public final class StartedByAYawn {
             return at >= limit;
         }
 
-        /** Signs beyond the most that may be make it not whole, though all that were read can stand. */
-        boolean isWhole() {
-            return at >= limit && !more;
+        /** Empties THE TEXT: whether it was good to its end; signs beyond the most that may be spoil it too. */
+        boolean close(boolean good) {
+            size = 0;
+            return good && at >= limit && !more;
         }
 
+        /** What a call answers that could not read on. */
         int fault() {
             return -1 - at;
         }
