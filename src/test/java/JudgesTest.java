@@ -178,6 +178,11 @@ public final class JudgesTest {
         two.away(1);
         Due.is("rests: nobody, if all are AWAY", two.rests(20), 2);
         Due.row("rests: nobody, if all are AWAY", two, 1, -1, -1, -1);
+        StartedByAYawn other = Due.lake("5/3>b;8/3>bc;9/2>b");
+        other.judges(5);
+        other.yawn(1, 1);
+        Due.is("rests: each on another FACE", other.rests(20), 5);
+        Due.row("rests: each keeps its own", other, 1, 0, 2, 0);
         StartedByAYawn full = Due.lake("8/1;0/1");
         Due.is("rests: put to 9, then 4 less", full.rests(2), 2);
         Due.row("rests: put to 9, then 4 less", full, 0, 0, 0, 40);

@@ -32,7 +32,7 @@ public final class ModelTest {
 
     private boolean run() {
         if (random.nextInt(20) > 0) {
-            tell(walls(1 + random.nextInt(7)));
+            tell(walls(1 + random.nextInt(9)));
             call("wall()", x.wall(), model.wall());
         }
         int most = 40 + random.nextInt(160);

@@ -171,6 +171,9 @@ public final class ToComeTest {
         StartedByAYawn y = Due.lake("1/1>bc;1/1>a;1/1>a", "1");
         Due.is("cuts: both", y.cuts(0), 2);
         Due.row("cuts: both", y, 6, 1);
+        StartedByAYawn z = Due.lake("1/1>d;1/1>a;1/1>a;1/1>bc", "1");
+        Due.is("cuts: one of a higher number, not two", z.cuts(0), 1);
+        Due.row("cuts: one of a higher number, not two", z, 8, 2);
         Due.is("cuts: a alone", y.cuts(2), 1);
         Due.row("cuts: a alone", y, 1, 1);
     }

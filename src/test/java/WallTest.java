@@ -133,8 +133,9 @@ public final class WallTest {
     private static void ruleFaults() {
         StartedByAYawn x = Due.lake("5/1>b;3/1>a");
         String[] faulty = {"z", "t+", "+t", "t<y<k", "t<y=k", "(t", "()", "t)", "(((((t)))))", "1000", "tt", "t1", "1t",
-            "t>>y", "*t", "t-*y", "-", "(t<y)<k>1", "1 +1", "t;", "(t)(y)", "2(t)"};
-        int[] at = {0, 2, 0, 3, 3, 2, 1, 1, 4, 3, 1, 1, 1, 2, 0, 2, 1, 7, 1, 1, 3, 1};
+            "t>>y", "*t", "t-*y", "-", "(t<y)<k>1", "1 +1", "t;", "(t)(y)", "2(t)",
+            "t<", "t*", "(t=)", "((((", "t-"};
+        int[] at = {0, 2, 0, 3, 3, 2, 1, 1, 4, 3, 1, 1, 1, 2, 0, 2, 1, 7, 1, 1, 3, 1, 2, 2, 3, 4, 2};
         for (int i = 0; i < faulty.length; i++) {
             Due.is("rule: " + faulty[i], Due.rule(x, faulty[i]), -1 - at[i]);
         }
