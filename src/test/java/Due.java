@@ -1,11 +1,27 @@
 import java.util.Arrays;
 import java.util.NoSuchElementException;
+import java.util.function.BooleanSupplier;
+import java.util.function.IntSupplier;
 
 /** What the tests share: texts told to an object, and a count of the answers that are not as due. */
 final class Due {
     private static int wrong;
+    /** The sentence whose test runs, told ahead of each fault. */
+    private static String sentence = "";
 
     private Due() {
+    }
+
+    /** The test of one sentence alone, which quotes it as it stands in the document. */
+    static void says(int promise, String words, Runnable test) {
+        Doc.quote(promise, words);
+        sentence = (promise == Doc.TERMS ? "Terms" : "Promise " + promise) + " '" + words + "': ";
+        try {
+            test.run();
+        } catch (RuntimeException e) {
+            fault("throws " + e);
+        }
+        sentence = "";
     }
 
     static void is(String call, long got, long want) {
@@ -27,6 +43,12 @@ final class Due {
         noSuch(call + ": row(" + want.length + ")", () -> x.row(want.length));
     }
 
+    /** An answer with its ROW. */
+    static void told(String call, StartedByAYawn x, int got, int want, int... row) {
+        is(call, got, want);
+        row(call, x, row);
+    }
+
     static int[] rowOf(StartedByAYawn x) {
         int[] row = new int[x.count(10)];
         for (int i = 0; i < row.length; i++) {
@@ -46,8 +68,61 @@ final class Due {
 
     static void fault(String text) {
         wrong++;
-        System.out.println(text);
+        System.out.println(sentence + text);
     }
+
+    // ---- what stays as it is
+
+    /** All that can be asked of an object without a question about MINUTES to come, but for the ROW. */
+    static String stateOf(StartedByAYawn x) {
+        StringBuilder all = new StringBuilder();
+        for (int what = 0; what < 12; what++) {
+            all.append(what == 10 ? "" : x.count(what) + " ");
+        }
+        for (int f = 0; f < x.count(0); f++) {
+            for (int what = 0; what < 8; what++) {
+                all.append(x.face(f, what)).append(what < 7 ? "," : " ");
+            }
+        }
+        return all.append(bookOf(x)).toString();
+    }
+
+    static String bookOf(StartedByAYawn x) {
+        StringBuilder all = new StringBuilder();
+        for (int i = 0; i < x.count(5); i++) {
+            for (int what = 0; what < 5; what++) {
+                all.append(x.book(i, what)).append(what < 4 ? "/" : " ");
+            }
+        }
+        return all.toString();
+    }
+
+    /** A call answers so, and nothing but perhaps the ROW changes by it. */
+    static void asks(String call, StartedByAYawn x, IntSupplier run, int want) {
+        String before = stateOf(x);
+        is(call, run.getAsInt(), want);
+        String behind = stateOf(x);
+        if (!before.equals(behind)) {
+            fault(call + " makes " + before + " into " + behind);
+        }
+    }
+
+    /** A call without an answer: a number below 0 tells why, and nothing changes, nor does the ROW. */
+    static void none(String call, StartedByAYawn x, IntSupplier run, int want) {
+        int[] before = rowOf(x);
+        asks(call, x, run, want);
+        row(call, x, before);
+    }
+
+    static void refused(String call, StartedByAYawn x, IntSupplier run) {
+        none(call, x, run, StartedByAYawn.NONE);
+    }
+
+    static void refuses(String call, StartedByAYawn x, BooleanSupplier run) {
+        none(call, x, () -> run.getAsBoolean() ? 1 : 0, 0);
+    }
+
+    // ---- texts
 
     /** THE TEXT becomes these signs alone. */
     static StartedByAYawn text(StartedByAYawn x, String signs) {
