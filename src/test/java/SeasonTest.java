@@ -284,6 +284,11 @@ public final class SeasonTest {
             Due.asks("not meant", y, y::began, 0);
             StartedByAYawn none = new StartedByAYawn();
             Due.asks("no FACES", none, none::began, 0);
+            StartedByAYawn z = Due.lake("5/1;5/3>a", "1");
+            z.yawn(0, 0);
+            z.minute();
+            z.seen(1, 0);
+            Due.asks("b has DUE later", z, z::began, 0);
         });
         Due.says(43, "the ROW: 1 if it comes as it is, else 0.", () -> {
             StartedByAYawn x = Due.lake("5/1;5/2>a;5/1>b;5/1", "1");
@@ -383,6 +388,11 @@ public final class SeasonTest {
             x.away(0);
             x.yawn(1, 0);
             Due.none("b has DUE now", x, x::fewest, -2);
+            StartedByAYawn y = Due.lake("5/1;5/3>a", "1");
+            y.yawn(0, 0);
+            y.minute();
+            y.seen(1, 0);
+            Due.none("b has DUE later", y, y::fewest, -2);
         });
     }
 

@@ -573,7 +573,10 @@ public final class TermsTest {
         Due.says(TERMS, "A yawn is FALSE, if it is meant and a JUDGE sees it.", () -> {
             StartedByAYawn x = Due.lake("5/1>bc;5/1;5/1;5/1");
             x.judges(1);
-            Due.hour(x, "fb;yc;fd;m1");
+            Due.hour(x, "fb;yc;fd");
+            Due.told("c, true and seen", x, x.start(), 0, 2, 1);
+            Due.is("all three", x.minute(), 2 + 4 + 8);
+            Due.row("b's alone is FALSE", x, 1, 2);
             Due.is("meant and seen", x.book(0, 4), 1);
             Due.is("true and seen", x.book(1, 4), 0);
             Due.is("meant and not seen", x.book(2, 4), 0);
