@@ -64,6 +64,9 @@ public final class JudgesTest {
             Due.asks("b from 3 to 7: 20", x, () -> x.dull(4, 20), 1);
             Due.asks("9 at most", x, () -> x.dull(9, 0), 0);
             Due.asks("the farthest m", x, () -> x.dull(1, 299), 1);
+            StartedByAYawn one = Due.lake("5/1");
+            Due.asks("one alone, for 30, nearer 40 as it is", one, () -> one.dull(1, 40), 0);
+            Due.row("it is more TIRED in any case", one, 30);
             x.minutes(15);
             Due.asks("from now: a 15, b 25", x, () -> x.dull(1, 16), 0);
             x.judges(0);

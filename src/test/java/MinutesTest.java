@@ -664,6 +664,13 @@ public final class MinutesTest {
             x.yawn(0, 0);
             x.minutes(11);
             Due.told("it is, of c", x, x.back(59), 2, 0, 1);
+            StartedByAYawn z = Due.lake("5/1;5/1;5/9>b;5/1;5/1;5/1;5/1;5/1;5/1", "1");
+            z.yawn(1, 0);
+            for (int k = 0; k < 9; k++) {
+                Due.hour(z, "yd;ye;yf;yg;yh;yi;ya;m1");
+            }
+            z.minute();
+            Due.told("c has b behind it", z, z.back(59), 1, 1, 0);
             StartedByAYawn y = longAgo();
             y.yawn(0, 0);
             y.minute();

@@ -393,6 +393,17 @@ public final class SeasonTest {
             y.minute();
             y.seen(1, 0);
             Due.none("b has DUE later", y, y::fewest, -2);
+            StartedByAYawn z = Due.lake("5/3>b;5/1;5/1", "1");
+            z.yawn(1, 0);
+            z.minute();
+            z.seen(0, 0);
+            Due.none("a has DUE later, b and c do not help", z, z::fewest, -2);
+            Due.wall(z, "5/3>c;5/1");
+            z.forget();
+            z.yawn(2, 0);
+            z.minute();
+            z.seen(3, 0);
+            Due.none("d has DUE later, b, c and e do not help", z, z::fewest, -2);
         });
     }
 
@@ -572,6 +583,8 @@ public final class SeasonTest {
             x.keep(0);
             Due.is("kept anew", x.again(0), true);
             StartedByAYawn none = new StartedByAYawn();
+            Due.refuses("nothing kept, no FACES", none, () -> none.again(0));
+            Due.refuses("nothing kept, no FACES", none, () -> none.again(1));
             none.keep(0);
             Due.is("none kept, none came", none.again(0), true);
             Due.wall(none, "1/1");

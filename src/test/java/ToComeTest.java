@@ -483,6 +483,10 @@ public final class ToComeTest {
             Due.told("b, e", y, y.path(0, 4), 2, 1, 4);
             StartedByAYawn w = Due.lake("1/1;1/1>a;1/1>b;1/2>a;1/1>cd", "0");
             Due.told("b, c, e is less than d, e", w, w.path(0, 4), 3, 1, 2, 4);
+            StartedByAYawn v = Due.lake("1/1;1/4>a;1/3>a", "0");
+            Due.told("not b, from whom nobody CATCHES one", v, v.path(0, 2), 3, 2);
+            StartedByAYawn u = Due.lake("1/1;1/1;1/1>a;1/1>bc", "0");
+            Due.told("not b, that SEES nobody", u, u.path(0, 3), 2, 2, 3);
         });
     }
 }

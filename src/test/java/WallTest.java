@@ -159,6 +159,9 @@ public final class WallTest {
             Due.is("the third", Due.wall(x, "4/1;4/1;x"), -9);
             Due.is("all is as it was", Due.stateOf(x).equals(before), true);
             Due.is("there is no b", x.face(0, 2), 0);
+            Due.is("the second, behind one that SEES a", Due.wall(x, "9/1>a;x"), -7);
+            Due.told("nobody SEES a", x, x.catchers(0, 0), 0, 0);
+            Due.is("nobody else yawns", x.ahead(300), x.row(0));
             Due.is("a good one", Due.wall(x, "0/9"), 1);
             Due.is("has nothing of the other", x.face(1, 0) * 100 + x.face(1, 1) * 10 + x.face(1, 2), 90);
         });
@@ -225,6 +228,9 @@ public final class WallTest {
             Due.is("none", Due.wall(x, "1/1"), -1);
             Due.asks("an empty one", x, x::wall, 0);
             Due.is("ten on a new wall", Due.wall(new StartedByAYawn(), NINE + ";1/1"), -37);
+            StartedByAYawn y = new StartedByAYawn();
+            Due.is("nine and a ;", Due.wall(y, NINE + ";"), -37);
+            Due.is("none of them came", y.count(0), 0);
             Due.is("ten of which the first 76 could go on",
                 Due.wall(new StartedByAYawn(), "1/1>abcdefghi;1/1>abcdefghi;1/1>abcdefghi;1/1>ab;1/1;1/1;1/1;1/1;1/1;1/1;1/1"), -70);
         });
